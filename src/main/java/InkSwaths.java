@@ -18,7 +18,6 @@ public final class InkSwaths {
     private static final int[] BETTER_BY = {FEED, MASK, START};
 
     private static final int DEAD = 0;
-    private static final int RIGHT = 0, LEFT = 1;
     private static final int SIXTEENTHS = 16, HALVINGS = 4;
 
     private static final int NULL = 1, INDEX = 2, CAST = 3, STORE = 4, SIZE = 5;
@@ -809,13 +808,17 @@ public final class InkSwaths {
             return (picture[line] >> column & 1) == 1;
         }
 
-        private static boolean isLiving(int[] living, int nozzle, int pass) {
-            return (living[nozzle] >> pass & 1) == 1;
+        private static boolean isLiving(int[] alive, int nozzle, int pass) {
+            return (alive[nozzle] >> pass & 1) == 1;
+        }
+
+        private static boolean goesRight(int pass) {
+            return (pass & 1) == 0;
         }
 
         /** The columns, as bits, that the head reaches in a pass. */
         private int columnsReached(int pass) {
-            return (pass & 1) == RIGHT ? ALL_DOTS >> head[EDGE] : ALL_DOTS << head[EDGE] & ALL_DOTS;
+            return goesRight(pass) ? ALL_DOTS >> head[EDGE] : ALL_DOTS << head[EDGE] & ALL_DOTS;
         }
 
         private int passOf(int line, int hit) {
@@ -842,33 +845,31 @@ public final class InkSwaths {
         }
 
         /**
-         * How many dots of a line are missed at least, by living nozzles and a cap in place of what is told.
-         * It is how many are missed, too: dots that fewer hits can print are looked at first, so those in the
-         * middle never take what those at an edge need. So a question for numbers alone needs no new printing.
+         * How many dots of a line are missed at least, by these nozzles alive and this cap. Just so many are
+         * missed when they are printed, too: a dot in the middle can be printed by more hits than one at an edge,
+         * so it is looked at later and takes no room that one at an edge needs; if as many hits can print both,
+         * they are the same hits. So questions for numbers alone need no printing.
          */
-        private int fewestMissed(int line, int[] living, int cap) {
+        private int fewestMissed(int line, int[] alive, int cap) {
             int dots = picture[line];
             if (dots == 0) {
                 return 0;
             }
-            int right = cap * livingHits(line, living, RIGHT);
-            int left = cap * livingHits(line, living, LEFT);
+            int right = 0;
+            int left = 0;
+            for (int hit = 0; hit < hitCount[line]; hit++) {
+                int pass = passOf(line, hit);
+                int room = isLiving(alive, nozzleOf(line, hit), pass) ? cap : 0;
+                right += goesRight(pass) ? room : 0;
+                left += goesRight(pass) ? 0 : room;
+            }
             int first = Integer.bitCount(dots & ((1 << head[EDGE]) - 1));
             int last = Integer.bitCount(dots >> (COLUMNS - head[EDGE]));
             int middle = Integer.bitCount(dots) - first - last;
             int firstMissed = Math.max(0, first - right);
             int lastMissed = Math.max(0, last - left);
-            int room = Math.max(0, right - first) + Math.max(0, left - last);
-            return firstMissed + lastMissed + Math.max(0, middle - room);
-        }
-
-        private int livingHits(int line, int[] living, int way) {
-            int many = 0;
-            for (int hit = 0; hit < hitCount[line]; hit++) {
-                int pass = passOf(line, hit);
-                many += (pass & 1) == way && isLiving(living, nozzleOf(line, hit), pass) ? 1 : 0;
-            }
-            return many;
+            int roomLeft = Math.max(0, right - first) + Math.max(0, left - last);
+            return firstMissed + lastMissed + Math.max(0, middle - roomLeft);
         }
 
         private int openLines(int pass) {
