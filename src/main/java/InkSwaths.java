@@ -300,11 +300,8 @@ public final class InkSwaths {
         for (int many = 0; many <= events.size; many++) {
             above += safeBySize[many] * power(c, many) * power(SIXTEENTHS - c, events.size - many);
         }
-        if (above == 0) {
-            return what == 0 ? 0 : 1;
-        }
         long below = power(SIXTEENTHS, events.size);
-        // What is below is a power of 2, so nothing but halving can shorten the fraction.
+        // What is below is a power of 2: nothing but halving can shorten the fraction, and 0 comes to 0 by 1.
         for (int i = 0; i < HALVINGS * events.size && (above & 1) == 0; i++) {
             above >>= 1;
             below >>= 1;

@@ -161,11 +161,12 @@ public final class PictureTest {
         x.put(1, 1, 1, 0);
         x.put(1, 1, 2, 9);
         Due.is("read 3 of 3", x.read(1), 3);
+        Due.is("what is read is printed", x.pass(0, 3, 0), 8);
+        Due.is("what was there is not", x.pass(1, 2, 0), 0);
         Due.is("line 0", x.line(0, 0), 255);
         Due.is("line 1", x.line(1, 0), 0);
         Due.is("line 2", x.line(2, 0), 9);
         Due.is("line 3 stays", x.line(3, 0), 7);
-        Due.is("what is read is printed", x.sum(1), 0);
         x.sheet(2, 0, 0);
         Due.is("read of no items", x.read(2), 0);
         Due.is("the sheet stays", x.get(1, 1, 2), 9);

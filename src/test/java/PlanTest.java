@@ -64,6 +64,16 @@ public final class PlanTest {
         better("column 2 wants hit 0 by mask 1, and by 3", x, 1, 1, 0);
         x.line(1, 0b01100000);
         better("columns 5, 6 want hit 1 by mask 2", x, 1, 2, 0);
+        x.set(4, -1);
+        x.line(1, 0);
+        x.line(0, 0b11000011);
+        better("columns 0, 1 want hit 0 and 6, 7 hit 1 by mask 3", x, 1, 3, 0);
+        InkSwaths last = Due.head(1, 1, 1, 2, 0);
+        last.line(12, 1);
+        better("the greatest feed", last, 0, 12, 0);
+        last.set(2, 12);
+        last.line(0, 1);
+        better("the greatest start", last, 2, 0, 0);
     }
 
     private static void promise18Wrong() {

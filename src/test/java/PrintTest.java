@@ -277,6 +277,8 @@ public final class PrintTest {
         x.line(7, 1);
         Due.is("8, 1 and a gutter drop ahead, one behind", x.drops(0), 11);
         Due.is("gutter drops alone", x.drops(3), 2);
+        x.line(0, 15);
+        Due.is("4 in pass 0 and two gutter drops", x.drops(3), 6);
         x.event(0, 4, 0);
         Due.is("dead from 4 on", x.drops(0), 9);
         for (int nozzle : new int[] {-1, 4, Integer.MIN_VALUE, Integer.MAX_VALUE}) {
@@ -302,6 +304,10 @@ public final class PrintTest {
         Due.is("fewest of many", z.even(0), 2);
         Due.is("most of many", z.even(1), 6);
         Due.is("just one of many", z.even(2), 0);
+        InkSwaths far = Due.head(1, 1, 1, 1, -20);
+        for (int what = 0; what < 3; what++) {
+            Due.is("no line is hit", far.even(what), 0);
+        }
         for (int what : new int[] {-1, 3, Integer.MIN_VALUE, Integer.MAX_VALUE}) {
             Due.is("even(" + what + ")", x.even(what), -2);
         }
@@ -310,6 +316,8 @@ public final class PrintTest {
     private static void promise17() {
         InkSwaths x = new InkSwaths();
         Due.is("no dots", x.open(), 0);
+        x.line(0, 255);
+        Due.is("in pass 0 alone", x.open(), 1);
         for (int line = 0; line < 16; line++) {
             x.line(line, 255);
         }

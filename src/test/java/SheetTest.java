@@ -205,6 +205,10 @@ public final class SheetTest {
             Due.is("int of line " + line, x.get(0, 2, line), line % 4 == 0 ? 0 : 255 - line);
         }
         Due.is("item 16 stays", x.get(0, 2, 16), 5);
+        x.set(5, 3);
+        Due.is("write when full", x.write(0), 16);
+        Due.is("int of line 0 when full", x.get(0, 2, 0), 248);
+        x.set(5, 8);
         x.sheet(1, 0, 3);
         Due.is("write 3 of 3", x.write(1), 3);
         Due.is("byte of line 0", x.get(1, 0, 0), 0);
@@ -288,6 +292,28 @@ public final class SheetTest {
         x.line(0, 1);
         Due.is("digest of another line", x.digest(), digestByCalls(x));
         Due.is("it is another", x.digest() == before ? 1 : 0, 0);
+        for (int i = 0; i < 24; i++) {
+            digestOf(i);
+        }
+    }
+
+    /** Many unlike states, so that no call that the digest is of can be left out or changed unseen. */
+    private static void digestOf(int i) {
+        InkSwaths x = Due.head(2 + i % 7, 1 + i % 5, 1 + i % 4, 5 + i % 8, -i % 13);
+        for (int line = 0; line < 16; line++) {
+            x.line(line, (91 * line + 57 * i) & 255);
+        }
+        x.set(5, 1 + i % 3);
+        x.set(6, 1 + i % 4);
+        x.set(7, i % 4);
+        x.set(8, i % 3);
+        for (int e = 0; e < i % 6; e++) {
+            x.event(e % 3 == 2 ? 1 : 0, (e + i) % 5, (e * i) % 4);
+        }
+        if (i % 4 == 3) {
+            x.seen(i % 16, i % 3);
+        }
+        Due.is("digest of state " + i, x.digest(), digestByCalls(x));
     }
 
     private static long digestByCalls(InkSwaths x) {
