@@ -264,12 +264,12 @@ public final class SheetTest {
 
     private static void promise34() {
         InkSwaths x = new InkSwaths();
-        Due.is("digest of a new one", x.digest(), digestByCalls(x));
+        Due.is("digest of a new one", x.digest(), Digest.byCalls(x));
         x = Due.picture(1, 2, 4, 8, 16, 32, 64, 128);
         x.event(0, 0, 2);
         x.event(0, 0, 3);
         Due.is("digest that was told with the document", x.digest(), 2661393236394048149L);
-        Due.is("digest by calls", x.digest(), digestByCalls(x));
+        Due.is("digest by calls", x.digest(), Digest.byCalls(x));
         x = Due.head(6, 2, 1, 12, -8);
         for (int line = 0; line < 16; line++) {
             x.line(line, 37 * line & 255);
@@ -284,13 +284,13 @@ public final class SheetTest {
         x.seen(1, 0);
         x.lose(0);
         long before = x.digest();
-        Due.is("digest by calls", before, digestByCalls(x));
+        Due.is("digest by calls", before, Digest.byCalls(x));
         x.get(0, 7, 0);
         x.sheet(0, 0, -1);
         x.sheet(1, 1, 4);
         Due.is("sheets and findings do not matter", x.digest(), before);
         x.line(0, 1);
-        Due.is("digest of another line", x.digest(), digestByCalls(x));
+        Due.is("digest of another line", x.digest(), Digest.byCalls(x));
         Due.is("it is another", x.digest() == before ? 1 : 0, 0);
         for (int i = 0; i < 24; i++) {
             digestOf(i);
@@ -313,45 +313,6 @@ public final class SheetTest {
         if (i % 4 == 3) {
             x.seen(i % 16, i % 3);
         }
-        Due.is("digest of state " + i, x.digest(), digestByCalls(x));
-    }
-
-    private static long digestByCalls(InkSwaths x) {
-        long[] h = {17};
-        for (int what = 0; what <= 7; what++) {
-            mix(h, x.count(what));
-        }
-        for (int line = 0; line <= 15; line++) {
-            mix(h, x.hits(line));
-            for (int i = 0; i <= 2; i++) {
-                mix(h, x.hit(line, i, 0), x.hit(line, i, 1));
-            }
-            for (int column : new int[] {0, 3, 7}) {
-                mix(h, x.by(line, column, 0), x.by(line, column, 1));
-            }
-            mix(h, x.missed(line), x.done(line));
-        }
-        for (int pass = 0; x.pass(pass, 0, 0) != -2; pass++) {
-            for (int nozzle = 0; x.pass(pass, nozzle, 0) != -2; nozzle++) {
-                mix(h, x.pass(pass, nozzle, 0), x.pass(pass, nozzle, 1), x.pass(pass, nozzle, 2));
-            }
-        }
-        for (int nozzle = 0; x.drops(nozzle) != -2; nozzle++) {
-            mix(h, x.drops(nozzle));
-        }
-        mix(h, x.sum(0), x.sum(1), x.sum(2), x.sum(3));
-        mix(h, x.even(0), x.even(1), x.even(2));
-        mix(h, x.better(0, 0), x.better(0, 1), x.better(1, 0), x.better(1, 1), x.better(2, 0), x.better(2, 1));
-        mix(h, x.spare(-1), x.spare(0));
-        mix(h, x.never(), x.was(0), x.was(1), x.ask());
-        mix(h, x.chance(5, 0), x.chance(5, 1));
-        mix(h, x.tests(7, 12, 0), x.tests(7, 12, 1));
-        return h[0];
-    }
-
-    private static void mix(long[] h, long... values) {
-        for (long v : values) {
-            h[0] = 31 * h[0] + v;
-        }
+        Due.is("digest of state " + i, x.digest(), Digest.byCalls(x));
     }
 }
