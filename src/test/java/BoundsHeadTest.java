@@ -472,6 +472,20 @@ public final class BoundsHeadTest {
         Due.is("no finding", x.count(8), 0);
     }
 
+    private static void promise6WhatIsReadIsPrinted() {
+        InkSwaths x = new InkSwaths();
+        x.sheet(0, 2, 16);
+        x.put(0, 2, 0, 255);
+        x.put(0, 2, 15, 1);
+        Due.is("read(0)", x.read(0), 16);
+        Due.is("line 0 is printed", x.pass(0, 3, 0), 8);
+        Due.is("line 15 is done", x.done(15), 6);
+        x.put(0, 2, 0, 0);
+        x.put(0, 2, 15, 0);
+        Due.is("read(0) anew", x.read(0), 16);
+        Due.is("all as at first", x.digest(), new InkSwaths().digest());
+    }
+
     private static void promise6TheSheetStays() {
         InkSwaths x = new InkSwaths();
         x.sheet(2, 1, 3);

@@ -113,6 +113,21 @@ public final class BoundsPlanTest {
         better("feed 1 prints one as wanted, feed 2 both", x, 0, 2, 0);
     }
 
+    /** But for the one in question all is as it is told, the last setting and the last nozzle, too. */
+    private static void promise18TheRestIsAsTold() {
+        InkSwaths x = Due.head(2, 1, 1, 3, 0);
+        x.event(0, 0, 1);
+        x.line(2, 0b00000010);
+        better("mask 0: by feed 1 it wants hit 1", x, 0, 1, 0);
+        x.set(8, 3);
+        better("mask 3: by feed 1 it wants hit 0, which is dead", x, 0, 2, 0);
+        InkSwaths y = Due.head(8, 1, 1, 1, -7);
+        y.line(0, 1);
+        better("nozzle 7 alive", y, 0, 1, 0);
+        y.event(0, 0, 7);
+        better("nozzle 7 dead", y, 0, 1, 1);
+    }
+
     private static void promise18WhatIsToldStays() {
         for (int setting = 0; setting < 3; setting++) {
             int by = setting;

@@ -502,6 +502,15 @@ public final class BoundsPrintTest {
         Due.is("no line is hit", y.pass(0, 0, 0), 0);
     }
 
+    private static void promise12DotsInTheLastPassByTheLastNozzle() {
+        InkSwaths x = Due.head(8, 1, 1, 12, -18);
+        Due.fill(x, 255);
+        Due.is("nozzle 7 in pass 11", x.pass(11, 7, 0), 8);
+        Due.is("nozzle 6 in pass 11", x.pass(11, 6, 0), 0);
+        Due.is("nozzle 7 in pass 10", x.pass(10, 7, 0), 0);
+        Due.is("nozzle 0 in pass 0", x.pass(0, 0, 0), 0);
+    }
+
     private static void promise12AliveFromThatPassOn() {
         InkSwaths x = Due.head(1, 1, 1, 12, -20);
         x.event(0, 11, 0);

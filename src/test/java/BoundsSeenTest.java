@@ -492,6 +492,16 @@ public final class BoundsSeenTest {
         Due.is("the picture stays", x.sum(1), 128);
     }
 
+    /** But for the picture all is as it is told, the last setting and the last nozzle, too. */
+    private static void promise26TheRestIsAsTold() {
+        InkSwaths x = Due.head(8, 1, 1, 1, -7);
+        Due.is("nozzle 7 alive", x.tests(1, 1, 0), 0);
+        x.set(5, 3);
+        Due.is("cap 3", x.tests(1, 1, 0), 1);
+        x.event(0, 0, 7);
+        Due.is("nozzle 7 dead", x.tests(1, 1, 0), 4);
+    }
+
     private static void promise26QuestionsChangeNothing() {
         Twins.question("never()", InkSwaths::never);
         Twins.question("was(0)", x -> x.was(0));

@@ -1,3 +1,5 @@
+import java.util.function.Consumer;
+
 /** The boundary cases of promises 27 to 34: sheets, counts, the digest. */
 public final class BoundsSheetTest {
     private static final int LEAST = Due.LEAST_INT, GREATEST = Due.GREATEST_INT;
@@ -471,9 +473,9 @@ public final class BoundsSheetTest {
     private static void promise33Most() {
         InkSwaths x = new InkSwaths();
         Twins.most(x);
-        // In pass 0 five dots of lines 0, 5, 10, 15 each, in pass 1 five of line 12. Nozzle 0 alone is alive and
-        // prints nothing long enough, from pass 2 on: a drop in pass 7.
-        counts("the greatest head", x, 128, 5, 8, 103, 103, 1, 4, 8, 5);
+        // In pass 0 five dots of lines 0, 5, 10, 15 each, in pass 1 five of line 12; nozzle 7 alone is alive for
+        // long enough with nothing to print, and makes drops in passes 5 and 11.
+        counts("the greatest head", x, 128, 5, 8, 103, 103, 2, 4, 8, 5);
         InkSwaths y = Due.head(8, 5, 1, 12, -20);
         Due.fill(y, 255);
         // Lines 0, 1, 5, 6, 10, 11, 15 have 3 hits, the rest 2; nozzles 0 to 7 make 4, 4, 3, 1, 0, 0, 2, 3 drops.
@@ -530,25 +532,63 @@ public final class BoundsSheetTest {
 
     // ---- promise 34: digest
 
-    private static void promise34LeastAndGreatestHead() {
-        digests("a new one", new InkSwaths());
-        digests("no hits", Due.head(1, 1, 1, 1, -20));
-        InkSwaths all = Due.head(1, 1, 1, 1, -20);
-        Due.fill(all, 255);
-        digests("all are missed", all);
-        InkSwaths most = new InkSwaths();
-        Twins.most(most);
-        digests("the greatest head, 8 events, 8 seen", most);
-        InkSwaths often = Due.head(8, 1, 1, 12, -7);
-        Due.fill(often, 255);
-        digests("8 hits", often);
-        InkSwaths some = new InkSwaths();
-        Twins.some(some);
-        digests("some of everything", some);
+    private static void promise34NoHitsAndMostHits() {
+        digest("a new one", Twins::nothing);
+        digest("no hits", x -> Twins.tellHead(x, 1, 1, 1, 1, -20));
+        digest("all are missed", x -> {
+            Twins.tellHead(x, 1, 1, 1, 1, -20);
+            Due.fill(x, 255);
+        });
+        digest("8 hits", x -> {
+            Twins.tellHead(x, 8, 1, 1, 12, -7);
+            Due.fill(x, 255);
+        });
     }
 
-    private static void digests(String name, InkSwaths x) {
-        Due.is(name, x.digest(), Digest.byCalls(x));
+    private static void promise34SomeAndMostOfAll() {
+        digest("some of everything", Twins::some);
+        digest("the greatest head, 8 events, 8 seen", Twins::most);
+    }
+
+    /** States in which no two of the calls that it is of answer alike by chance: sparing, chances. */
+    private static void promise34OneHadBetterNotBe() {
+        Consumer<InkSwaths> told = x -> {
+            Twins.tellHead(x, 8, 1, 1, 1, 0);
+            x.line(7, 1);
+            x.event(1, 0, 0);
+            x.event(0, 0, 7);
+        };
+        Due.is("spare(0)", Twins.made(told).spare(0), 1);
+        Due.is("chance(5, 0)", Twins.made(told).chance(5, 0), 11);
+        Due.is("chance(5, 1)", Twins.made(told).chance(5, 1), 16);
+        digest("one had better not be", told);
+    }
+
+    private static void promise34PrintedByAnotherHit() {
+        Consumer<InkSwaths> told = x -> {
+            Twins.tellHead(x, 3, 2, 2, 3, -4);
+            x.line(0, 0b10001001);
+            x.event(0, 0, 2);
+        };
+        Due.is("column 3 wants", Twins.made(told).by(0, 3, 1), 0);
+        Due.is("column 3 is printed by", Twins.made(told).by(0, 3, 0), 1);
+        digest("by another hit", told);
+    }
+
+    /** The last of 12 lines by lot makes a difference, and so would one more. */
+    private static void promise34TestsOf12Lines() {
+        Consumer<InkSwaths> told = x -> Twins.tellHead(x, 1, 1, 1, 12, 0, 8, 1);
+        Due.is("tests(7, 11, 1)", Twins.made(told).tests(7, 11, 1), 1);
+        Due.is("tests(7, 12, 1)", Twins.made(told).tests(7, 12, 1), 0);
+        digest("lines 0 to 11", told);
+        Consumer<InkSwaths> far = x -> Twins.tellHead(x, 1, 1, 12, 12, 0, 8, 1);
+        Due.is("tests(7, 12, 1)", Twins.made(far).tests(7, 12, 1), 11);
+        Due.is("tests(7, 13, 1)", Twins.made(far).tests(7, 13, 1), 10);
+        digest("lines 0 and 12", far);
+    }
+
+    private static void digest(String name, Consumer<InkSwaths> told) {
+        Due.is(name, Twins.made(told).digest(), Digest.byCalls(told));
     }
 
     /** count() 8 and what SHEETS hold are not in it. */

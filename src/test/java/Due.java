@@ -33,11 +33,7 @@ final class Due {
     /** A new object with a head: nozzles, space, feed, passes, start. */
     static InkSwaths head(int nozzles, int space, int feed, int passes, int start) {
         InkSwaths x = new InkSwaths();
-        x.set(0, nozzles);
-        x.set(1, space);
-        x.set(2, feed);
-        x.set(3, passes);
-        x.set(4, start);
+        Twins.tellHead(x, nozzles, space, feed, passes, start);
         return x;
     }
 

@@ -1,3 +1,5 @@
+import java.util.function.Consumer;
+
 /** Promises 27 to 34: sheets, counts, the digest. */
 public final class SheetTest {
     private static final int[] WRONG = {-1, 4, Integer.MIN_VALUE, Integer.MAX_VALUE};
@@ -263,56 +265,36 @@ public final class SheetTest {
     }
 
     private static void promise34() {
-        InkSwaths x = new InkSwaths();
-        Due.is("digest of a new one", x.digest(), Digest.byCalls(x));
-        x = Due.picture(1, 2, 4, 8, 16, 32, 64, 128);
-        x.event(0, 0, 2);
-        x.event(0, 0, 3);
-        Due.is("digest that was told with the document", x.digest(), 2661393236394048149L);
-        Due.is("digest by calls", x.digest(), Digest.byCalls(x));
-        x = Due.head(6, 2, 1, 12, -8);
-        for (int line = 0; line < 16; line++) {
-            x.line(line, 37 * line & 255);
-        }
-        x.set(5, 2);
-        x.set(6, 2);
-        x.set(7, 2);
-        x.set(8, 3);
-        x.event(0, 1, 1);
-        x.event(0, 3, 0);
-        x.event(1, 6, 1);
-        x.seen(1, 0);
-        x.lose(0);
-        long before = x.digest();
-        Due.is("digest by calls", before, Digest.byCalls(x));
-        x.get(0, 7, 0);
-        x.sheet(0, 0, -1);
-        x.sheet(1, 1, 4);
-        Due.is("sheets and findings do not matter", x.digest(), before);
-        x.line(0, 1);
-        Due.is("digest of another line", x.digest(), Digest.byCalls(x));
-        Due.is("it is another", x.digest() == before ? 1 : 0, 0);
+        Consumer<InkSwaths> first = x -> {
+            for (int line = 0; line < 8; line++) {
+                x.line(line, 1 << line);
+            }
+            x.event(0, 0, 2);
+            x.event(0, 0, 3);
+        };
+        Due.is("digest that was told with the document", Twins.made(first).digest(), 2661393236394048149L);
+        Due.is("digest by calls", Digest.byCalls(first), 2661393236394048149L);
         for (int i = 0; i < 24; i++) {
-            digestOf(i);
+            int number = i;
+            Consumer<InkSwaths> told = x -> tell(x, number);
+            Due.is("digest of state " + i, Twins.made(told).digest(), Digest.byCalls(told));
         }
+        InkSwaths x = Twins.made(first);
+        x.line(0, 2);
+        Due.is("another line, another digest", x.digest() == 2661393236394048149L ? 1 : 0, 0);
     }
 
     /** Many unlike states, so that no call that the digest is of can be left out or changed unseen. */
-    private static void digestOf(int i) {
-        InkSwaths x = Due.head(2 + i % 7, 1 + i % 5, 1 + i % 4, 5 + i % 8, -i % 13);
+    private static void tell(InkSwaths x, int i) {
+        Twins.tellHead(x, 2 + i % 7, 1 + i % 5, 1 + i % 4, 5 + i % 8, -i % 13, 1 + i % 3, 1 + i % 4, i % 4, i % 3);
         for (int line = 0; line < 16; line++) {
             x.line(line, (91 * line + 57 * i) & 255);
         }
-        x.set(5, 1 + i % 3);
-        x.set(6, 1 + i % 4);
-        x.set(7, i % 4);
-        x.set(8, i % 3);
         for (int e = 0; e < i % 6; e++) {
             x.event(e % 3 == 2 ? 1 : 0, (e + i) % 5, (e * i) % 4);
         }
         if (i % 4 == 3) {
             x.seen(i % 16, i % 3);
         }
-        Due.is("digest of state " + i, x.digest(), Digest.byCalls(x));
     }
 }

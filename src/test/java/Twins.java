@@ -52,7 +52,7 @@ final class Twins {
         Due.fill(x, 255);
         tellHead(x, GREATEST_HEAD);
         for (int i = 0; i < 8; i++) {
-            x.event(i == 7 ? 1 : 0, i, 7 - i);
+            x.event(i == 0 ? 1 : 0, i, 7 - i);
             x.seen(8 + i, 8);
         }
         int[] forms = {2, 2, 1, 0};
@@ -64,8 +64,9 @@ final class Twins {
         x.sheet(0, 0, -1);
     }
 
-    private static void tellHead(InkSwaths x, int[] head) {
-        for (int what = 0; what < 9; what++) {
+    /** What NOZZLES, SPACE, FEED and so on are, as many as are given. */
+    static void tellHead(InkSwaths x, int... head) {
+        for (int what = 0; what < head.length; what++) {
             x.set(what, head[what]);
         }
     }
@@ -125,7 +126,8 @@ final class Twins {
         }
     }
 
-    private static InkSwaths made(Consumer<InkSwaths> told) {
+    /** A new object that was told so. */
+    static InkSwaths made(Consumer<InkSwaths> told) {
         InkSwaths x = new InkSwaths();
         told.accept(x);
         return x;
@@ -156,12 +158,10 @@ final class Twins {
             answers.add((long) x.set(what, HEAD_THAT_HITS_NOTHING[what]));
         }
         answers.add((long) x.never());
-        answers.add((long) x.was(0));
         answers.add((long) x.was(1));
+        useUpLines(x, answers);
         answers.add((long) x.forget());
-        for (int line = 0; line < 16; line++) {
-            answers.add((long) x.line(line, 0));
-        }
+        useEventsOfNozzle0(x, answers);
         useUpEvents(x, answers);
         return answers;
     }
@@ -180,10 +180,33 @@ final class Twins {
         answers.add((long) x.lose(s));
     }
 
+    /** What was seen comes out so until a line of it has no dots; from the last line on, as it was told last. */
+    private static void useUpLines(InkSwaths x, List<Long> answers) {
+        for (int line = 15; line >= 0; line--) {
+            answers.add((long) x.was(0));
+            answers.add((long) x.line(line, 0));
+        }
+    }
+
+    /** Nozzle 0 is at line p in pass p: what is told of it there shows, the event told last among the rest. */
+    private static void useEventsOfNozzle0(InkSwaths x, List<Long> answers) {
+        x.set(3, 12);
+        x.set(4, 0);
+        x.set(5, 8);
+        x.line(6, 255);
+        x.line(7, 255);
+        x.seen(6, 0);
+        x.seen(7, 8);
+        answers.add((long) x.never());
+        answers.add(x.chance(5, 0));
+        answers.add(x.chance(5, 1));
+        x.line(6, 0);
+        x.line(7, 0);
+    }
+
     /** With no dots and a rest of 1 a nozzle makes as many drops as there are passes in which it is alive. */
     private static void useUpEvents(InkSwaths x, List<Long> answers) {
         x.set(0, 8);
-        x.set(3, 12);
         for (int i = 0; i < 9; i++) {
             for (int nozzle = 0; nozzle < 8; nozzle++) {
                 answers.add((long) x.drops(nozzle));
