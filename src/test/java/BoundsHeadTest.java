@@ -71,6 +71,20 @@ public final class BoundsHeadTest {
         Due.is("a sheet of one made behind", behind.lose(0), Due.NULL);
     }
 
+    /** An object may be asked 512 times; the last answer is as right as the first. */
+    private static void promise1For512Calls() {
+        InkSwaths x = new InkSwaths();
+        for (int call = 0; call < 510; call++) {
+            Due.is("call " + call, x.line(call % 16, call / 2), call < 16 ? 0 : (call - 16) / 2);
+        }
+        InkSwaths young = new InkSwaths();
+        for (int call = 494; call < 510; call++) {
+            young.line(call % 16, call / 2);
+        }
+        Due.is("call 510", x.digest(), young.digest());
+        Due.is("call 511", x.line(13, 0), 254);
+    }
+
     // ---- promise 2: line
 
     private static void promise2LinesAre0To15() {

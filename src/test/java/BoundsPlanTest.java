@@ -128,14 +128,6 @@ public final class BoundsPlanTest {
         better("nozzle 7 dead", y, 0, 1, 1);
     }
 
-    private static void promise18WhatIsToldStays() {
-        for (int setting = 0; setting < 3; setting++) {
-            int by = setting;
-            Twins.question("better(" + by + ", 0)", x -> x.better(by, 0));
-            Twins.question("better(" + by + ", 1)", x -> x.better(by, 1));
-        }
-    }
-
     private static void better(String name, InkSwaths x, int by, int which, int missed) {
         Due.is(name + ": which", x.better(by, 0), which);
         Due.is(name + ": how many are missed", x.better(by, 1), missed);
@@ -224,13 +216,6 @@ public final class BoundsPlanTest {
         x.event(0, 0, 0);
         x.event(0, 0, 1);
         spare("2, or 0, 1", x, 1, 2, -1);
-    }
-
-    private static void promise19EventsStay() {
-        for (int i = -1; i <= 1; i++) {
-            int number = i;
-            Twins.question("spare(" + number + ")", x -> x.spare(number));
-        }
     }
 
     private static void spare(String name, InkSwaths x, int many, int first, int second) {

@@ -322,6 +322,34 @@ public final class BoundsPrintTest {
         byRow("cap 3", x, 0, 0, 0, 2, 2, 0, 2, 1, 1, 1);
     }
 
+    /**
+     * Dead ones do not count: with the two to the right dead, 2 to 7 can be printed by one HIT alone, and are looked
+     * at by columns. Did the dead ones count, 6 and 7 would come ahead of 2 to 5.
+     */
+    private static void promise9DeadOnesAreNotAmongTheFewest() {
+        InkSwaths x = thrice();
+        x.line(0, 255);
+        x.set(7, 2);
+        x.set(5, 2);
+        x.event(0, 0, 2);
+        x.event(0, 2, 0);
+        byRow("cap 2", x, 0, 0, -1, -1, 1, 1, -1, -1, -1, -1);
+        x.set(5, 5);
+        byRow("cap 5", x, 0, 0, -1, -1, 1, 1, 1, 1, 1, -1);
+    }
+
+    /** CAP is for each HIT: what a NOZZLE prints in other PASSES, other NOZZLES in this one, does not count. */
+    private static void promise9CapOfEachHit() {
+        InkSwaths x = Due.head(2, 1, 2, 2, 0);
+        for (int line = 0; line < 4; line++) {
+            x.line(line, 0b00000111);
+        }
+        x.set(5, 2);
+        for (int line = 0; line < 4; line++) {
+            byRow("line " + line, x, line, 0, 0, 0, -1, -1, -1, -1, -1, -1);
+        }
+    }
+
     private static void byRow(String name, InkSwaths x, int line, int what, int... due) {
         for (int column = 0; column < 8; column++) {
             Due.is(name + ": column " + column, x.by(line, column, what), due[column]);
@@ -794,6 +822,37 @@ public final class BoundsPrintTest {
         Due.is("line 15 has no dots", x.open(), 15);
     }
 
+    /** It is begun by the first DOT printed, not by the first HIT; DONE by the last DOT printed, not by the last HIT. */
+    private static void promise17ByDotsNotByHits() {
+        InkSwaths x = thrice();
+        x.line(4, 1);
+        x.line(0, 0b00000010);
+        Due.is("line 0 in pass 1, line 4 in pass 2", x.open(), 1);
+        InkSwaths y = Due.head(3, 1, 1, 3, 0);
+        // Line 2 is hit in passes 0 to 2, line 0 in pass 0 alone; column 1 of line 2 wants hit 0, column 2 hit 1.
+        y.line(0, 1);
+        y.line(2, 0b00000100);
+        Due.is("line 0 in pass 0, line 2 in pass 1", y.open(), 1);
+        y.line(2, 0b00000010);
+        Due.is("both in pass 0", y.open(), 2);
+    }
+
+    /** A LINE of which DOTS are MISSED is DONE all the same. */
+    private static void promise17MissedDotsDoNotKeepItOpen() {
+        InkSwaths x = thrice();
+        x.set(8, 1);
+        x.set(5, 1);
+        x.line(0, 255);
+        x.event(0, 1, 1);
+        x.event(0, 2, 0);
+        x.line(4, 1);
+        x.event(0, 0, 1);
+        x.event(1, 2, 2);
+        Due.is("line 0 is done in pass 0", x.done(0), 0);
+        Due.is("line 4 is done in pass 2", x.done(4), 2);
+        Due.is("not open together", x.open(), 1);
+    }
+
     /** In one PASS alone it is begun and DONE; that PASS may be the first and the last there is. */
     private static void promise17OnePass() {
         InkSwaths x = Due.head(4, 5, 1, 1, 0);
@@ -817,19 +876,5 @@ public final class BoundsPrintTest {
         Due.is("line 0 in pass 1 alone", x.open(), 1);
         x.line(0, 0b00000100);
         Due.is("line 0 in pass 2 alone", x.open(), 2);
-    }
-
-    private static void promise17QuestionsChangeNothing() {
-        Twins.question("hits(0)", x -> x.hits(0));
-        Twins.question("hit(0, 0, 0)", x -> x.hit(0, 0, 0));
-        Twins.question("by(0, 0, 0)", x -> x.by(0, 0, 0));
-        Twins.question("missed(0)", x -> x.missed(0));
-        Twins.question("done(0)", x -> x.done(0));
-        Twins.question("pass(0, 0, 1)", x -> x.pass(0, 0, 1));
-        Twins.question("sum(2)", x -> x.sum(2));
-        Twins.question("least()", InkSwaths::least);
-        Twins.question("drops(0)", x -> x.drops(0));
-        Twins.question("even(0)", x -> x.even(0));
-        Twins.question("open()", InkSwaths::open);
     }
 }

@@ -175,6 +175,18 @@ public final class BoundsSeenTest {
         Due.is("both of a line", x.never(), 0);
     }
 
+    /** EVENTS of a NOZZLE and of a PASS that the head does not have: what was SEEN comes out so without them, too. */
+    private static void promise22EventsBeyondTheHead() {
+        InkSwaths x = once();
+        x.event(0, 0, 7);
+        x.event(0, 11, 0);
+        Due.is("nothing seen", x.never(), 3);
+        x.seen(0, 0);
+        Due.is("none is missed", x.never(), 3);
+        x.seen(0, 1);
+        Due.is("one would be", x.never(), 0);
+    }
+
     private static void promise22OneAloneNotTwo() {
         InkSwaths x = once();
         x.event(0, 0, 0);
@@ -329,6 +341,29 @@ public final class BoundsSeenTest {
         Due.is("the first and the last column: one each", x.ask(), 0);
         x.line(1, 0b10000000);
         Due.is("the last column: nozzle 0 makes one missed, nozzle 1 none", x.ask(), 1);
+    }
+
+    /** It is the greatest number that counts, not how many unlike numbers there are. */
+    private static void promise24TheGreatestNumber() {
+        // Nozzles 2 and 0 hit line 2, nozzles 3 and 1 hit line 3, the first of them to the right.
+        InkSwaths x = Due.head(4, 1, 2, 2, 0);
+        x.set(7, 2);
+        x.line(2, 0b10000001);
+        x.line(3, 0b10000011);
+        Due.is("2 and 2 are like 2, 1 and 1", x.ask(), 2);
+        x.line(2, 0b10000011);
+        x.line(3, 0b10000001);
+        Due.is("2, 1 and 1 are like 2 and 2", x.ask(), 2);
+        x.line(2, 0);
+        Due.is("line 3 alone tells", x.ask(), 3);
+        // Line 1 is hit by nozzles 2, 0 to the right and to the left, line 5 by 4, 2, 0 to the left, right, left.
+        InkSwaths y = Due.head(6, 1, 2, 4, -1);
+        y.set(7, 2);
+        y.set(5, 2);
+        y.line(1, 0b10000011);
+        Due.is("line 1: by nozzle 2 two are missed, by 0 one, by the four others none", y.ask(), 1);
+        y.line(5, 255);
+        Due.is("line 5: by three four are missed, by three two", y.ask(), 5);
     }
 
     // ---- promise 25: chance
@@ -500,15 +535,5 @@ public final class BoundsSeenTest {
         Due.is("cap 3", x.tests(1, 1, 0), 1);
         x.event(0, 0, 7);
         Due.is("nozzle 7 dead", x.tests(1, 1, 0), 4);
-    }
-
-    private static void promise26QuestionsChangeNothing() {
-        Twins.question("never()", InkSwaths::never);
-        Twins.question("was(0)", x -> x.was(0));
-        Twins.question("was(1)", x -> x.was(1));
-        Twins.question("ask()", InkSwaths::ask);
-        Twins.question("chance(5, 0)", x -> x.chance(5, 0));
-        Twins.question("tests(7, 12, 0)", x -> x.tests(7, 12, 0));
-        Twins.question("tests(7, 16, 1)", x -> x.tests(7, 16, 1));
     }
 }

@@ -517,13 +517,6 @@ public final class BoundsSheetTest {
         Due.is("FULL", x.count(8), 0);
     }
 
-    private static void promise33QuestionsChangeNothing() {
-        for (int number = 0; number <= 8; number++) {
-            int what = number;
-            Twins.question("count(" + what + ")", x -> x.count(what));
-        }
-    }
-
     private static void counts(String name, InkSwaths x, int... due) {
         for (int what = 0; what <= 8; what++) {
             Due.is(name + ": count(" + what + ")", x.count(what), due[what]);
@@ -599,10 +592,5 @@ public final class BoundsSheetTest {
         x.sheet(1, 2, 60);
         x.put(1, 2, 59, LEAST);
         Due.is("digest()", x.digest(), before);
-    }
-
-    /** It asks for what may be NONE, and leaves no FINDING behind. */
-    private static void promise34ChangesNothing() {
-        Twins.question("digest()", InkSwaths::digest);
     }
 }

@@ -43,7 +43,7 @@ final class Twins {
         x.put(0, 1, 0, 9);
     }
 
-    private static int dotsOfSome(int line) {
+    static int dotsOfSome(int line) {
         return 37 * line & 255;
     }
 
@@ -126,6 +126,22 @@ final class Twins {
         }
     }
 
+    /** What is told and told back, whatever was told before it, leaves all as it was. */
+    static void asBefore(String calls, Consumer<InkSwaths> thereAndBack) {
+        for (Consumer<InkSwaths> state : STATES) {
+            asBefore(calls, state, thereAndBack);
+        }
+    }
+
+    /** What is told and told back leaves all as it was, count(8), too: nothing else was changed by the way. */
+    static void asBefore(String calls, Consumer<InkSwaths> told, Consumer<InkSwaths> thereAndBack) {
+        InkSwaths x = made(told);
+        InkSwaths twin = made(told);
+        thereAndBack.accept(x);
+        Due.is(calls + ", then count(8)", x.count(8), twin.count(8));
+        likeTwin(calls, x, twin);
+    }
+
     /** A new object that was told so. */
     static InkSwaths made(Consumer<InkSwaths> told) {
         InkSwaths x = new InkSwaths();
@@ -152,7 +168,11 @@ final class Twins {
         }
         answers.add(x.digest());
         for (int s = 0; s < 4; s++) {
-            useUpSheet(x, s, answers);
+            readSheet(x, s, answers);
+        }
+        // Not ahead of all reading: a loss that changed another sheet would show on neither of the two.
+        for (int s = 0; s < 4; s++) {
+            answers.add((long) x.lose(s));
         }
         for (int what = 0; what < 9; what++) {
             answers.add((long) x.set(what, HEAD_THAT_HITS_NOTHING[what]));
@@ -166,7 +186,7 @@ final class Twins {
         return answers;
     }
 
-    private static void useUpSheet(InkSwaths x, int s, List<Long> answers) {
+    private static void readSheet(InkSwaths x, int s, List<Long> answers) {
         for (int form = 0; form < 3; form++) {
             for (int i = 0; i < 61; i++) {
                 int item = x.get(s, form, i);
@@ -177,7 +197,6 @@ final class Twins {
             }
             answers.add((long) x.count(8));
         }
-        answers.add((long) x.lose(s));
     }
 
     /** What was seen comes out so until a line of it has no dots; from the last line on, as it was told last. */
