@@ -322,6 +322,27 @@ public final class BoundsPrintTest {
         byRow("cap 3", x, 0, 0, 0, 2, 2, 0, 2, 1, 1, 1);
     }
 
+    /** All HITS count, the first and the last, to the right and to the left: those in the middle come last. */
+    private static void promise9FewestOfAllHits() {
+        InkSwaths rightLeft = Due.head(2, 1, 1, 2, -1);
+        edges(rightLeft, 2);
+        byRow("right, left: cap 2", rightLeft, 0, 0, 0, 0, -1, -1, -1, -1, 1, 1);
+        rightLeft.set(5, 3);
+        byRow("right, left: cap 3", rightLeft, 0, 0, 0, 0, 0, 1, -1, -1, 1, 1);
+        InkSwaths leftRight = Due.head(2, 1, 1, 3, -2);
+        edges(leftRight, 2);
+        byRow("left, right: cap 2", leftRight, 0, 0, 1, 1, -1, -1, -1, -1, 0, 0);
+        InkSwaths leftRightLeft = Due.head(3, 1, 1, 4, -3);
+        edges(leftRightLeft, 1);
+        byRow("left, right, left: cap 1", leftRightLeft, 0, 0, 1, -1, -1, -1, -1, -1, 0, 2);
+    }
+
+    private static void edges(InkSwaths x, int cap) {
+        x.line(0, 255);
+        x.set(7, 2);
+        x.set(5, cap);
+    }
+
     /**
      * Dead ones do not count: with the two to the right dead, 2 to 7 can be printed by one HIT alone, and are looked
      * at by columns. Did the dead ones count, 6 and 7 would come ahead of 2 to 5.
